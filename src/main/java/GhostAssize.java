@@ -508,7 +508,7 @@ public final class GhostAssize {
             if ((choices >> taken & 1) == 0) {
                 continue;
             }
-            // With the usher's choice the accused may turn to any quiet one; with the accused's, the usher to any loud one.
+            // The accused may turn to any quiet choice of the same row, the usher to any loud one of the same column.
             if (heard[taken] == choices) {
                 pairs += Integer.bitCount(choices);
             }
@@ -776,7 +776,7 @@ public final class GhostAssize {
         return true;
     }
 
-    /** Choice 0 is none, choice 1 and more the prop of one number less; heard: bits of choices to ease, by the one taken. */
+    /** Choice 0 is none, any other the prop of one number less; heard: by the one taken down, the loud ones to ease. */
     private void hearAllChoices(int one, int choices) {
         for (int taken = 0; taken <= PROPS; taken++) {
             heard[taken] = 0;
@@ -1602,7 +1602,7 @@ public final class GhostAssize {
             }
         }
 
-        /** Behind a ride: props come to are worn and known. A prop is in one slot, so each is told as it was come to. */
+        /** Behind a ride: props come to are worn and known. Each is in one slot, so it is told as it was come to. */
         void wearOn() {
             int ahead = 0;
             for (int slot = 0; slot < SLOTS && behind[slot] != NONE; slot++) {
