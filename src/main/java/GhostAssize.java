@@ -28,7 +28,8 @@ public final class GhostAssize {
     private static final int ALL_ODDS = 10000;
     private static final int HALF_ODDS = 5000;
 
-    // The words of both texts, their letters one behind another in a number: so they are told apart without texts.
+    // The words of both texts, their letters one behind another in a number. None has eight, so that of a longer word,
+    // which keeps its last eight letters, is none of them.
     private static final long PROP_WORD = 0x70726f70L;
     private static final long JERK_WORD = 0x6a65726bL;
     private static final long AT_WORD = 0x6174L;
@@ -1050,7 +1051,6 @@ public final class GhostAssize {
         private static final int NUMBER = 2;
         private static final int SIGN = 3;
         private static final int DIGITS = 3;
-        private static final int LETTERS = 7;
         private static final long NO_WORD = 0;
         private static final int FRIGHT_BYTES = 40;
 
@@ -1110,7 +1110,6 @@ public final class GhostAssize {
                     word = word << 8 | bytes[end];
                     end++;
                 }
-                word = end - begin <= LETTERS ? word : NO_WORD;
             } else if (bytes[begin] >= '0' && bytes[begin] <= '9') {
                 kind = NUMBER;
                 while (end < length && bytes[end] >= '0' && bytes[end] <= '9') {

@@ -71,6 +71,11 @@ final class ActTest {
         Check.same("worn 99 at most", x.prop(0, 2), 99);
         Check.same("worn by tense ahead of it", x.prop(1, 2), 10);
         Check.same("knows, too", x.accused(0, 2), 3);
+        GhostAssize z = Check.court("prop a jerk 5 at 0;prop b jerk 0 at 1;accused nerve 60");
+        Check.law(z, "wear 5 if tense < 1");
+        z.send(0);
+        Check.same("tense 0 ahead of the first", z.prop(0, 2), 6);
+        Check.same("not ahead of the next", z.prop(1, 2), 1);
         GhostAssize y = Check.court("prop a jerk 20 at 9;accused nerve 60");
         Check.law(y, "ease 20 if knows;wear 10");
         y.send(0);
@@ -107,6 +112,7 @@ final class ActTest {
         Check.cannotBe("nailed", () -> x.nail(0, 5));
         Check.cannotBe("nailed there", () -> x.nail(0, 0));
         Check.cannotBe("there is a prop", () -> x.nail(1, 9));
+        Check.cannotBe("there is the prop 0", () -> x.nail(1, 0));
         Check.same("one act", x.count(14), 1);
         Check.same("it stays", x.prop(1, 3), NONE);
         x.nail(1, 1);

@@ -3,6 +3,7 @@ final class PlanTest {
     private static final int NONE = GhostAssize.NONE;
 
     public static void main(String[] args) {
+        everyNumber();
         promise32Cover();
         promise33Leave();
         promise34Bravest();
@@ -13,6 +14,34 @@ final class PlanTest {
         promise39Share();
         promise40Loudest();
         Check.close();
+    }
+
+    /** Eight props and six accused: all numbers that there can be are asked for. */
+    private static GhostAssize full() {
+        GhostAssize x = Check.court("prop a jerk 1 at 0;prop b jerk 1 at 1;prop c jerk 1 at 2;prop d jerk 1 at 3;prop e jerk 1 at 4"
+                + ";prop f jerk 1 at 5;prop a jerk 1 at 6;prop b jerk 20 at 7");
+        Check.more(x, "accused nerve 20 did a;accused nerve 20;accused nerve 20 did bc;accused nerve 20 did d"
+                + ";accused nerve 20 did e;accused nerve 33 did f");
+        return x;
+    }
+
+    private static void everyNumber() {
+        GhostAssize x = full();
+        // Straight: 2, 4, .. 14, then 35.
+        Check.same("cover", x.cover(), 63);
+        Check.same("leave", x.leave(), 128);
+        Check.same("loudest", x.loudest(), 7);
+        Check.same("all", x.all(false), 63);
+        Check.same("bravest", x.bravest(), 5);
+        Check.same("alike", x.alike(), 0);
+        Check.same("mornings", x.mornings(1), 0);
+        Check.same("worn", x.count(12), 0);
+        Check.same("lasts", x.lasts(7, 5), 50);
+        Check.same("share", x.share(7, 5), 74);
+        // Eased at the last, or with it taken down, nobody screams; else all do.
+        Check.same("usher", x.usher(0), 9);
+        Check.same("inside", x.inside(5), 1);
+        Check.same("states", x.count(11), 32);
     }
 
     private static void promise32Cover() {
@@ -86,6 +115,7 @@ final class PlanTest {
         // One that is eased still jolts by 1, one that is taken down calms.
         GhostAssize z = Check.court("prop a jerk 5 at 0;prop b jerk 5 at 1;accused nerve 6");
         Check.same("6 and 12; eased 1 and 7, 6 and 7; taken 0 and 6", z.usher(0), 3);
+        Check.same("what was eased frights again", z.straight(0), 1);
     }
 
     private static void promise37Lasts() {
@@ -154,5 +184,16 @@ final class PlanTest {
         Check.same("of the nailed", x.loudest(), 1);
         x.down(0);
         Check.same("none", x.loudest(), NONE);
+        GhostAssize y = Check.court("prop a jerk 6 at 0;prop b jerk 6 at 1;accused nerve 5;accused nerve 60");
+        Check.same("the first, too", y.loudest(), 0);
+        y.inside(0);
+        y.down(0);
+        y.nail(0, 2);
+        Check.law(y, "fright 30 if slot > 1");
+        Check.more(y, "accused nerve 30");
+        Check.same("as it is nailed now", y.loudest(), 0);
+        y.calm(0);
+        Check.law(y, "fright 30 if slot < 2");
+        Check.same("nothing stays of the answer before", y.loudest(), 1);
     }
 }

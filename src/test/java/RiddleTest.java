@@ -47,6 +47,7 @@ final class RiddleTest {
         found(y, 1, "\4\1\5\1\6\1\7\1\10\1\11\1", 1, 63);
         found(y, 1, "\4\0\5\0\6\0\7\0\10\0\11\0", 1, 0);
         found(y, 1, "\4\1\11\1", 16, 33);
+        found(y, 1, "\5\0\6\0\7\0\10\0\11\0", 2, 0);
     }
 
     private static void promise28FoundByTense() {
@@ -88,7 +89,17 @@ final class RiddleTest {
         Check.law(y, "fright 1 if guilty");
         ask(y, 1, "\0\1\1\1\2\1\3\1\4\1\5\1", NONE);
         ask(y, 1, "\0\1\1\1\2\1\3\1\5\1", 4);
+        ask(y, 1, "\1\0\2\0\3\0\4\0\5\0", 0);
         ask(Check.court("prop a jerk 5"), 1, "", NONE);
+        // The set without deeds counts in its part: of three sets two are without a, then of two one.
+        GhostAssize w = Check.court("prop a jerk 0 at 3;prop b jerk 0 at 1");
+        Check.law(w, "fright 1 if guilty");
+        ask(w, 1, "", 1);
+        // The greatest fright that can be: 380 for all in slot 0, 350 or 380 in slot 1.
+        GhostAssize z = Check.court("prop a jerk 20 at 0;prop b jerk 20 at 1");
+        Check.law(z, "fright 30;fright 30;fright 30;fright 30;fright 30;fright 30;fright 30;fright 30;fright 30;fright 30"
+                + ";fright 30;fright 30 if guilty or slot<1");
+        ask(z, 1, "", 1);
     }
 
     private static void promise28And29Wrong() {
@@ -136,6 +147,16 @@ final class RiddleTest {
         Check.noOne("nobody", () -> x.car(0, 6));
         Check.noOne("nobody", () -> x.car(-1, 0));
         Check.same("nothing wears", x.count(12), 0);
+        GhostAssize y = Check.court("prop a jerk 5 at 0;accused nerve 6;accused nerve 6;accused nerve 60;accused nerve 5;echo 1");
+        Check.same("the first one hears the other one", y.car(0, 3), 3);
+        Check.same("the other one hears the first one", y.car(3, 0), 3);
+        // Jolts from seed 2 are 2, 2: a car has none of them behind a ride by draws.
+        y.seed(2);
+        y.send(2);
+        Check.same("straight", y.car(0, 1), 0);
+        y.end(0);
+        y.found(9, false);
+        Check.same("not on behind a scream", y.car(3, 2), 1);
     }
 
     private static void promise31Corners() {

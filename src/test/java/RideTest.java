@@ -58,6 +58,13 @@ final class RideTest {
         Check.law(x, "fright 1 if tense > 7");
         Check.same("by a law of tense: jolts 2 and any, 1 and 2", x.ways(0), 4);
         Check.same("without props", Check.court("accused nerve 1").ways(0), 0);
+        // A nerve of 60 is the most: 58 and three jolts.
+        GhostAssize z = Check.court("prop a jerk 20 at 0;prop b jerk 19 at 1;prop c jerk 19 at 2;accused nerve 60;accused nerve 59");
+        Check.same("above 60 by 3 and more of 6", z.ways(0), 27 - 1 - 3 - 6);
+        Check.same("above 59 by 2 and more of 6", z.ways(1), 27 - 1 - 3);
+        // Behind the calm slot the jolts 0 and 1 are both tense 0, the jolt 2 is tense 1.
+        GhostAssize v = Check.court("prop a jerk 0 at 0;prop b jerk 3 at 2;accused nerve 4;calm 1");
+        Check.same("0 and 1 come to it alike", v.ways(0), 1 + 1 + 2);
         GhostAssize y = Check.court("prop a jerk 0 at 0;prop a jerk 0 at 1;prop a jerk 0 at 2;prop a jerk 0 at 3"
                 + ";prop a jerk 0 at 4;prop a jerk 0 at 5;prop a jerk 0 at 6;prop a jerk 0 at 7;accused nerve 15;accused nerve 1");
         Check.same("eight jolts of 2", y.ways(0), 1);
@@ -106,6 +113,17 @@ final class RideTest {
         x.inside(5);
         Check.same("who waits alone", x.errors(true), 1);
         Check.same("who waits alone", x.errors(false), 1);
+        GhostAssize z = Check.court("prop a jerk 6 at 0;accused nerve 8");
+        Check.same("the first, too", z.errors(true), 1);
+        // It screams if the first jolt that is not 1 is 2, or all are 1: 3281 of 6561 rows, that is 5000.
+        GhostAssize y = Check.court("prop a jerk 0 at 0;prop a jerk 0 at 1;prop a jerk 0 at 2;prop a jerk 0 at 3"
+                + ";prop a jerk 0 at 4;prop a jerk 0 at 5;prop a jerk 0 at 6;prop a jerk 0 at 7;accused nerve 31 did b;accused nerve 31");
+        Check.law(y, "fright 30 if tense>slot+slot+slot+slot"
+                + ";fright 3 if not tense>slot+slot+slot+slot and not tense<slot+slot+slot+slot");
+        Check.same("ways", y.ways(0), 3281);
+        Check.same("odds", y.odds(0), 5000);
+        Check.same("just 5000 is 5000 at least", y.errors(false), 1);
+        Check.same("just 5000 is not less", y.errors(true), 0);
     }
 
     private static void promise26Swap() {
@@ -134,5 +152,9 @@ final class RideTest {
         Check.same("all are nailed", x.next(), NONE);
         GhostAssize z = Check.court("prop a jerk 9 at 0;prop c jerk 20");
         Check.same("nobody waits: the least", z.next(), 11);
+        GhostAssize v = Check.court("prop a jerk 9;accused nerve 1");
+        Check.same("the prop 0 in the slot 0", v.next(), 0);
+        Check.law(v, "ease 20 if slot < 9");
+        Check.same("the last slot", v.next(), 9);
     }
 }

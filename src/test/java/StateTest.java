@@ -11,6 +11,7 @@ final class StateTest {
         promise10FrightWithoutLaw();
         promise10Facts();
         promise10Conditions();
+        promise10LawAnew();
         promise10Wears();
         promise10Wrong();
         Check.close();
@@ -121,6 +122,14 @@ final class StateTest {
         due("fright 10 if ((not (guilty or (tense > 3 and not knows))))", 0, 2, 9, 11);
         due("fright 10 if ((not (guilty or (tense > 3 and not knows))))", 1, 2, 9, 1);
         due("fright 1 if knows;fright 2;fright 4 if guilty;fright 8 if slot > 1", 0, 2, 0, 12);
+    }
+
+    private static void promise10LawAnew() {
+        GhostAssize x = Check.law(Check.court(COURT), "wear 9 if guilty or knows;ease 9;wear 1");
+        Check.law(x, "fright 2;fright 3 if slot > 6;fright 4 if slot < 3");
+        Check.same("nothing stays of the law before", x.fright(1, 7, 0, false), 17);
+        Check.same("nothing stays of the law before", x.fright(1, 2, 0, false), 7);
+        Check.same("nothing stays of the law before", x.fright(0, 2, 0, true), 1);
     }
 
     private static void promise10Wears() {

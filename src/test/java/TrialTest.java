@@ -55,6 +55,14 @@ final class TrialTest {
             Check.same("the most of " + row[0], x.span(row[0], true), row[2]);
         }
         Check.same("the seed stays", x.seed(1), 99);
+        // It screams by a first jolt of 2 and a next of 2: from seed 2 alone. By 2 and 0 from 3 and from 6.
+        GhostAssize y = Check.court("prop a jerk 9 at 0;prop b jerk 9 at 1;accused nerve 21");
+        Check.same("seed 2 is one of them", y.span(1, true), 1);
+        Check.same("not in all", y.span(1, false), 0);
+        // Three jolts: 2 0 2 is of seed 6 alone; by the law each 2 in slots 0 and 2 and a 0 in slot 1 is needed.
+        GhostAssize z = Check.court("prop a jerk 0 at 0;prop a jerk 0 at 1;prop a jerk 0 at 2;accused nerve 33");
+        Check.law(z, "fright 10 if slot>0 and slot<2 and tense>1;fright 20 if slot>1 and tense<13 and tense>11");
+        Check.same("seed 6 is one of them", z.span(1, true), 1);
         Check.notThat("-1", () -> x.span(-1, true));
         Check.notThat("21", () -> x.span(21, false));
         Check.same("20 at most", x.span(20, true) <= 20, true);
@@ -111,6 +119,11 @@ final class TrialTest {
         Check.same("the latest", x.log(0, 0), 68);
     }
 
+    private static GhostAssize reads(GhostAssize x) {
+        Check.more(x, "day 1");
+        return Check.law(x, "");
+    }
+
     private static void promise45Seed() {
         GhostAssize x = Check.court("prop a jerk 5 at 0;accused nerve 60");
         Check.same("at first", x.seed(-7), 1);
@@ -119,5 +132,6 @@ final class TrialTest {
         x.send(0);
         Check.same("behind a draw", x.seed(3), 1103527590);
         Check.same("no act", x.count(14), 1);
+        Check.same("a text leaves it", reads(x).seed(1), 3);
     }
 }
