@@ -1161,6 +1161,12 @@ public final class GhostAssize {
             return value >= low && value <= high ? value : NONE;
         }
 
+        /** The one letter that stands here as a deed, without going on; NONE, if it is none such. */
+        int letter() {
+            boolean isOne = kind == WORD && end - begin == 1 && bytes[begin] < 'a' + DEEDS;
+            return isOne ? bytes[begin] - 'a' : NONE;
+        }
+
         /** The word that stands here as deeds, without going on; NONE, if it has other letters or one twice. */
         int deeds() {
             if (kind != WORD) {
@@ -1236,8 +1242,8 @@ public final class GhostAssize {
 
         private boolean readProp() {
             tape.advance();
-            int deed = tape.deeds();
-            if (deed == NONE || Integer.bitCount(deed) != 1) {
+            int deed = tape.letter();
+            if (deed == NONE) {
                 return false;
             }
             tape.advance();
@@ -1257,7 +1263,7 @@ public final class GhostAssize {
             if (worn == NONE) {
                 return false;
             }
-            addProp(Integer.numberOfTrailingZeros(deed), jerk, worn, slot);
+            addProp(deed, jerk, worn, slot);
             return true;
         }
 
