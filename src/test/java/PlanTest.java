@@ -101,6 +101,7 @@ final class PlanTest {
     private static void promise36Usher() {
         GhostAssize x = Check.court("prop a jerk 20 at 0;prop b jerk 20;accused nerve 10;accused nerve 60");
         Check.same("eased or never", x.usher(0), 2);
+        Check.same("what was eased frights again", x.straight(0), 0);
         Check.same("never a scream", x.usher(1), 4);
         Check.noOne("nobody", () -> x.usher(2));
         Check.noOne("nobody", () -> x.usher(-1));
@@ -115,7 +116,13 @@ final class PlanTest {
         // One that is eased still jolts by 1, one that is taken down calms.
         GhostAssize z = Check.court("prop a jerk 5 at 0;prop b jerk 5 at 1;accused nerve 6");
         Check.same("6 and 12; eased 1 and 7, 6 and 7; taken 0 and 6", z.usher(0), 3);
-        Check.same("what was eased frights again", z.straight(0), 1);
+        String seven = "prop a jerk 0 at 1;prop b jerk 0;prop b jerk 0;prop b jerk 0;prop b jerk 0;prop b jerk 0;prop b jerk 0";
+        GhostAssize v = Check.court(seven + ";prop c jerk 5 at 0;accused nerve 10");
+        Check.law(v, "fright 20 if tense < 1 and prop < 1");
+        Check.same("the last prop taken down makes the scream", v.usher(0), 3);
+        Check.law(v, "fright 20 if prop > 6");
+        v.down(1);
+        Check.same("the last prop eased", v.usher(0), 2);
     }
 
     private static void promise37Lasts() {
@@ -184,8 +191,8 @@ final class PlanTest {
         Check.same("of the nailed", x.loudest(), 1);
         x.down(0);
         Check.same("none", x.loudest(), NONE);
-        GhostAssize y = Check.court("prop a jerk 6 at 0;prop b jerk 6 at 1;accused nerve 5;accused nerve 60");
-        Check.same("the first, too", y.loudest(), 0);
+        GhostAssize y = Check.court("prop a jerk 6 at 0;prop b jerk 6 at 1;accused nerve 9;accused nerve 60");
+        Check.same("the first, too", y.loudest(), 1);
         y.inside(0);
         y.down(0);
         y.nail(0, 2);

@@ -91,10 +91,11 @@ final class RiddleTest {
         ask(y, 1, "\0\1\1\1\2\1\3\1\5\1", 4);
         ask(y, 1, "\1\0\2\0\3\0\4\0\5\0", 0);
         ask(Check.court("prop a jerk 5"), 1, "", NONE);
-        // The set without deeds counts in its part: of three sets two are without a, then of two one.
-        GhostAssize w = Check.court("prop a jerk 0 at 3;prop b jerk 0 at 1");
+        // The set without deeds counts in its part: it and that of a alone are parted by the last slot only.
+        GhostAssize w = Check.court("prop a jerk 0 at 9;prop b jerk 0 at 0;prop c jerk 0 at 1;prop d jerk 0 at 2"
+                + ";prop e jerk 0 at 3;prop f jerk 0 at 4");
         Check.law(w, "fright 1 if guilty");
-        ask(w, 1, "", 1);
+        ask(w, 1, "\0\0\1\0\2\0\3\0\4\0", 9);
         // The greatest fright that can be: 380 for all in slot 0, 350 or 380 in slot 1.
         GhostAssize z = Check.court("prop a jerk 20 at 0;prop b jerk 20 at 1");
         Check.law(z, "fright 30;fright 30;fright 30;fright 30;fright 30;fright 30;fright 30;fright 30;fright 30;fright 30"

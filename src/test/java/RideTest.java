@@ -76,6 +76,9 @@ final class RideTest {
         Check.same("a jolt of 2 and any", x.at(0, 0), 3);
         Check.same("all others", x.at(0, 1), 6);
         Check.same("without a prop", x.at(0, 5), 0);
+        x.down(1);
+        Check.same("without a prop now", x.at(0, 1), 0);
+        Check.same("one of three", x.at(0, 0), 1);
         Check.same("none", x.at(1, 0), 0);
         Check.noOne("nobody", () -> x.at(2, 0));
         Check.noOne("no slot", () -> x.at(0, 10));
