@@ -578,7 +578,7 @@ public final class GhostAssize {
         int most = 0;
         for (int prop = 0; prop < now.props; prop++) {
             int slot = now.where[prop];
-            if (slot >= 0 && (best == NONE || loudness[slot] > most)) {
+            if (slot >= 0 && loudness[slot] > most) {
                 most = loudness[slot];
                 best = prop;
             }

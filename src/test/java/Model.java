@@ -984,7 +984,8 @@ final class Model {
         }
         int best = -1;
         for (int p : w.nailed()) {
-            if (best < 0 || by[w.props.get(p).slot] > by[w.props.get(best).slot]) {
+            int here = by[w.props.get(p).slot];
+            if (here > 0 && (best < 0 || here > by[w.props.get(best).slot])) {
                 best = p;
             }
         }

@@ -185,12 +185,13 @@ final class PlanTest {
         Check.same("3 and 9 to 6", x.loudest(), 1);
         x.inside(1);
         Check.same("who waits alone", x.loudest(), 0);
-        x.inside(0);
-        Check.same("of several the least", x.loudest(), 0);
         x.down(1);
         Check.same("of the nailed", x.loudest(), 1);
+        x.inside(0);
+        Check.same("nobody waits, so there is no scream", x.loudest(), NONE);
+        x.undo();
         x.down(0);
-        Check.same("none", x.loudest(), NONE);
+        Check.same("none is nailed", x.loudest(), NONE);
         GhostAssize y = Check.court("prop a jerk 6 at 0;prop b jerk 6 at 1;accused nerve 9;accused nerve 60");
         Check.same("the first, too", y.loudest(), 1);
         y.inside(0);
@@ -202,5 +203,23 @@ final class PlanTest {
         y.calm(0);
         Check.law(y, "fright 30 if slot < 2");
         Check.same("nothing stays of the answer before", y.loudest(), 1);
+        loudestOfSeveralAndWithout();
+    }
+
+    private static void loudestOfSeveralAndWithout() {
+        GhostAssize x = Check.court("prop a jerk 0 at 1;prop b jerk 0 at 0;accused nerve 1");
+        Check.same("three ways at the one", x.at(0, 0), 3);
+        Check.same("three ways at the other one", x.at(0, 1), 3);
+        Check.same("of several the least", x.loudest(), 0);
+        GhostAssize y = Check.court("prop a jerk 0 at 9;prop b jerk 1 at 4;accused nerve 5;accused nerve 60");
+        Check.same("5 at most, which is not above 5", y.loudest(), NONE);
+        Check.more(y, "accused nerve 4");
+        Check.same("calm in between takes the only way", y.ways(2), 0);
+        Check.same("no way, no scream", y.loudest(), NONE);
+        y.calm(0);
+        Check.same("one way of all nine rows", y.ways(2), 1);
+        Check.same("one way is enough", y.loudest(), 0);
+        y.inside(2);
+        Check.same("the one who would scream works inside", y.loudest(), NONE);
     }
 }
