@@ -6,15 +6,32 @@ import java.util.Arrays;
 final class Check {
     private static int made = 0;
     private static int wrong = 0;
+    private static String sentence = "";
 
     private Check() {
+    }
+
+    /** The document's words that the checks from here on are about; EdgeListTest finds them in the document. */
+    static void sentence(String words) {
+        sentence = "[" + words + "] ";
+    }
+
+    private static void tellWrong(String what) {
+        wrong++;
+        System.out.println(sentence + what);
     }
 
     static void same(String what, long got, long want) {
         made++;
         if (got != want) {
-            wrong++;
-            System.out.println(what + " answered " + got + ", due is " + want);
+            tellWrong(what + " answered " + got + ", due is " + want);
+        }
+    }
+
+    static void same(String what, String got, String want) {
+        made++;
+        if (!got.equals(want)) {
+            tellWrong(what + " is\n  " + got + ", due is\n  " + want);
         }
     }
 
@@ -32,8 +49,7 @@ final class Check {
             got = e.getClass();
         }
         if (got != due) {
-            wrong++;
-            System.out.println(what + " threw " + got + ", due is " + due);
+            tellWrong(what + " threw " + got + ", due is " + due);
         }
     }
 
@@ -68,6 +84,17 @@ final class Check {
         GhostAssize x = new GhostAssize();
         more(x, text);
         return x;
+    }
+
+    /** As many of a text as are told, with a sign between them. */
+    static String times(int many, String text, String between) {
+        return String.join(between, java.util.Collections.nCopies(many, text));
+    }
+
+    /** How many bytes the tape has: looked at without a change. */
+    static void tapeHas(String what, GhostAssize x, int bytes) {
+        same(what + ": the tape has no more", x.end(bytes + 1), false);
+        same(what + ": the tape has as many", x.end(bytes), true);
     }
 
     static void more(GhostAssize x, String text) {

@@ -15,29 +15,6 @@ final class MemoryTest {
         Check.close();
     }
 
-    /** All that can be asked of a state, in one text. */
-    private static String all(GhostAssize x) {
-        StringBuilder s = new StringBuilder();
-        for (int what = 0; what < 14; what++) {
-            s.append(x.count(what)).append(' ');
-        }
-        for (int i = 0; i < 4 * x.count(0); i++) {
-            s.append(x.prop(i / 4, i % 4)).append(' ');
-        }
-        for (int i = 0; i < 4 * x.count(1); i++) {
-            s.append(x.accused(i / 4, i % 4)).append(' ');
-        }
-        for (int i = 0; i < 4 * x.count(13); i++) {
-            s.append(x.log(i / 4, i % 4)).append(' ');
-        }
-        for (int slot = 0; slot < 10; slot++) {
-            s.append(x.slot(slot)).append(' ');
-        }
-        int seed = x.seed(0);
-        x.seed(seed);
-        return s.append(seed).append(' ').append(x.fright(0, 0, 50, false)).toString();
-    }
-
     private static void act(GhostAssize x, int which) {
         switch (which) {
             case 0 -> x.send(0);
@@ -56,14 +33,14 @@ final class MemoryTest {
         GhostAssize x = Check.court(COURT);
         String[] ahead = new String[9];
         for (int i = 0; i < 9; i++) {
-            ahead[i] = all(x);
+            ahead[i] = View.ofCourt(x);
             act(x, i);
-            Check.same("the act changed something", ahead[i].equals(all(x)), false);
+            Check.same("the act changed something", ahead[i].equals(View.ofCourt(x)), false);
             Check.same("acts", x.count(14), i + 1);
         }
         for (int i = 8; i >= 0; i--) {
             Check.same("undo", x.undo(), true);
-            Check.same("all is as ahead of act " + i, ahead[i].equals(all(x)), true);
+            Check.same("all is as ahead of act " + i, ahead[i].equals(View.ofCourt(x)), true);
             Check.same("acts", x.count(14), i);
         }
         Check.same("none left", x.undo(), false);
@@ -141,7 +118,7 @@ final class MemoryTest {
         Check.law(x, "fright 2 if tense > 9");
         x.send(1);
         x.seed(12);
-        String kept = all(x);
+        String kept = View.ofCourt(x);
         x.image();
         for (int i = 0; i < 2; i++) {
             x.send(0);
@@ -154,9 +131,9 @@ final class MemoryTest {
             Check.more(x, "prop d jerk 20 at 7;accused nerve 8;echo 1;day 77");
             Check.courtFault(x, "bat", 0);
             x.feed(0, 0, 0, 0, 0);
-            Check.same("changed", kept.equals(all(x)), false);
+            Check.same("changed", kept.equals(View.ofCourt(x)), false);
             Check.same("back", x.back(), true);
-            Check.same("all is as it was kept", kept.equals(all(x)), true);
+            Check.same("all is as it was kept", kept.equals(View.ofCourt(x)), true);
             Check.same("fault stays", x.fault(), 0);
             Check.same("the tape stays", x.end(20), true);
             Check.same("none are remembered", x.count(14), 0);
@@ -176,9 +153,9 @@ final class MemoryTest {
     private static void promise48BackWithout() {
         GhostAssize x = Check.court(COURT);
         x.calm(5);
-        String now = all(x);
+        String now = View.ofCourt(x);
         Check.same("back", x.back(), false);
-        Check.same("nothing happens", now.equals(all(x)), true);
+        Check.same("nothing happens", now.equals(View.ofCourt(x)), true);
         Check.same("acts", x.count(14), 1);
         GhostAssize y = new GhostAssize();
         y.image();
