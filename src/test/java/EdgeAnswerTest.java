@@ -103,6 +103,19 @@ final class EdgeAnswerTest {
             Check.law(x, "fright 30;fright 21");
             Check.same("from " + (51 + jerk) + " on", x.ways(0), Math.max(0, Math.min(3, jerk - 7)));
         }
+        // Just 60 behind the first, the second, the third prop by jolts of 0 alone, and a row of 0 behind them.
+        String[] courts = {"prop a jerk 20 at 0", "prop a jerk 10 at 0;prop a jerk 10 at 1",
+            "prop a jerk 0 at 0;prop a jerk 0 at 1;prop a jerk 20 at 2"};
+        String[] laws = {"fright 30;fright 10", "fright 20", "fright 20 if slot<2"};
+        int[] ends = {2, 8, 26};
+        for (int i = 0; i < 3; i++) {
+            GhostAssize x = Check.law(Check.court(courts[i] + ";accused nerve 60;accused nerve 59"), laws[i]);
+            Check.same("all rows but one", x.ways(0), ends[i]);
+            Check.same("all rows", x.ways(1), ends[i] + 1);
+            Check.more(x, "prop a jerk 0 at 9;calm 0");
+            Check.law(x, laws[i].contains("if") ? laws[i] : laws[i].replace(";", " if slot<9;") + " if slot<9");
+            Check.same("all rows but one, and one prop more", x.ways(0), 3 * ends[i] + 2);
+        }
     }
 
     private static void waysNotComeTo() {

@@ -16,12 +16,14 @@ final class EdgeMemoryTest {
         undoneAgain();
         undoneEachAct();
         undoneOnlyActs();
+        actsAsTexts();
         undoneBut();
         noneRemembered();
         imageNone();
         imageOne();
         imageBut();
         imageOfAll();
+        imageOfLog();
         counts();
         fiveHundredCalls();
         Check.close();
@@ -226,6 +228,41 @@ final class EdgeMemoryTest {
         Check.same("three", x.count(14), 3);
     }
 
+    /** What is told by a text and what is done by acts is the same court: all questions answer alike. */
+    private static void actsAsTexts() {
+        Check.sentence("ACTS: one who waits is sent (a RIDE by draws); a PROP is nailed into a SLOT; taken down;");
+        String people = ";accused nerve 9 did a;accused nerve 12;accused nerve 20 did bc;accused nerve 15;echo 3";
+        GhostAssize told = Check.court("prop a jerk 5 at 7;prop b jerk 7 at 2;prop c jerk 9;prop b jerk 4 at 9" + people + ";calm 1");
+        GhostAssize done = Check.court("prop a jerk 5 at 0;prop b jerk 7;prop c jerk 9 at 2;prop b jerk 4 at 7" + people);
+        for (GhostAssize x : new GhostAssize[] {told, done}) {
+            Check.law(x, "fright 3 if guilty;fright 4 if slot>6;ease 2 if prop>2");
+        }
+        done.down(0);
+        done.down(7);
+        done.down(2);
+        done.nail(3, 9);
+        done.nail(0, 7);
+        done.nail(1, 2);
+        done.calm(1);
+        Check.same("the court", View.ofCourt(done), View.ofCourt(told));
+        Check.same("the answers", View.ofAnswers(done), View.ofAnswers(told));
+        Check.same("the riddles", View.ofRiddles(done), View.ofRiddles(told));
+        for (int i = 0; i < 7; i++) {
+            done.undo();
+        }
+        done.nail(1, 5);
+        told.down(7);
+        told.down(2);
+        told.down(9);
+        told.nail(0, 0);
+        told.nail(2, 2);
+        told.nail(3, 7);
+        told.nail(1, 5);
+        told.calm(2);
+        Check.same("the answers the other way about", View.ofAnswers(done), View.ofAnswers(told));
+        Check.same("the riddles the other way about", View.ofRiddles(done), View.ofRiddles(told));
+    }
+
     private static void undoneBut() {
         Check.sentence("all is as ahead of it (but for the TAPE, fault(), THE IMAGE).");
         GhostAssize x = Check.court(COURT);
@@ -375,6 +412,30 @@ final class EdgeMemoryTest {
         Check.same("changed", kept.equals(View.ofCourt(x)), false);
         Check.same("back", x.back(), true);
         Check.same("all as it was kept", View.ofCourt(x), kept);
+    }
+
+    private static void imageOfLog() {
+        Check.sentence("THE IMAGE (one) of all may be kept, and gone back to");
+        GhostAssize x = Check.court("prop a jerk 5 at 0;prop b jerk 5 at 9;accused nerve 60;accused nerve 60");
+        int[] tense = new int[60];
+        for (int i = 59; i >= 0; i--) {
+            x.send(i % 2);
+            x.recall(i % 2);
+            tense[i] = x.log(0, 3);
+        }
+        x.image();
+        x.mornings(9);
+        for (int i = 0; i < 60; i++) {
+            x.send(0);
+            x.recall(0);
+        }
+        Check.same("all are of another day", x.log(59, 0), 9);
+        Check.same("back", x.back(), true);
+        for (int ago = 0; ago < 60; ago++) {
+            Check.same("tense of the row " + ago + " ago", x.log(ago, 3), tense[ago]);
+        }
+        Check.same("rows of both", x.led(0, false) * 100 + x.led(1, false), 3030);
+        Check.same("the day of the oldest", x.log(59, 0), 0);
     }
 
     private static void counts() {

@@ -118,6 +118,8 @@ final class EdgePlanTest {
         x.undo();
         Check.same("one waits", x.bravest(), 0);
         Check.same("all alike", Check.court("accused nerve 1;accused nerve 60").bravest(), 0);
+        Check.same("0, 10000 and 3333", Check.court("prop a jerk 6 at 0;accused nerve 8;accused nerve 5;accused nerve 7").bravest(), 0);
+        Check.same("10000, 3333 and 6666", Check.court("prop a jerk 6 at 0;accused nerve 5;accused nerve 7;accused nerve 6").bravest(), 1);
         Check.same("one who always screams", Check.court("prop a jerk 20 at 0;accused nerve 1").bravest(), 0);
     }
 
@@ -159,6 +161,9 @@ final class EdgePlanTest {
         GhostAssize x = Check.court("prop a jerk 5 at 0;prop b jerk 0 at 1;accused nerve 10");
         Check.law(x, "fright 20 if tense<1 and prop>0");
         Check.same("eased at the second: three that the usher cannot better", x.usher(0), 3);
+        // Of three the last two are nailed: both together are above the nerve, each one alone is not.
+        GhostAssize v = Check.court("prop a jerk 20;prop a jerk 9 at 0;prop b jerk 9 at 1;accused nerve 19");
+        Check.same("eased at the one or at the other one", v.usher(0), 6);
         // Either one alone is above the nerve: quiet only if the one is taken down and the other one eased.
         GhostAssize y = Check.court("prop a jerk 8 at 0;prop b jerk 8 at 9;accused nerve 8;calm 9");
         Check.same("none taken: a scream always", y.usher(0), 3);

@@ -21,6 +21,7 @@ final class EdgeRideTest {
         jolts();
         draws();
         comeTo();
+        wornEach();
         wornMost();
         wornBehind();
         morningWorn();
@@ -297,6 +298,25 @@ final class EdgeRideTest {
         Check.same("of the scream", x.prop(1, 2), 2);
         Check.same("ahead of it", x.prop(2, 2), 2);
         Check.same("not nailed", x.prop(3, 2), 0);
+    }
+
+    /** Eight props, none in the slot of its own number: each is worn by its own law, the last two as all others. */
+    private static void wornEach() {
+        Check.sentence("each PROP come to is WORN more by what it WORE by");
+        GhostAssize x = Check.court("prop a jerk 0 at 9;prop a jerk 0 at 8;prop a jerk 0 at 7;prop a jerk 0 at 6;prop a jerk 0 at 5"
+                + ";prop a jerk 0 at 3;prop a jerk 0 at 1;prop a jerk 0 at 0;accused nerve 60");
+        Check.law(x, "wear 10 if slot>7;wear 1 if slot<1;wear 3 if prop>5;wear 20 if prop<1");
+        int[] due = {31, 11, 1, 1, 1, 1, 4, 5};
+        for (int prop = 0; prop < 8; prop++) {
+            Check.same("wears " + prop, x.fright(0, x.prop(prop, 3), 0, true), due[prop]);
+        }
+        x.send(0);
+        for (int prop = 0; prop < 8; prop++) {
+            Check.same("worn of " + prop, x.prop(prop, 2), due[prop]);
+        }
+        Check.same("knows all", x.accused(0, 2), 255);
+        Check.same("rides till the first is worn 50", x.lasts(0, 0), 1);
+        Check.same("rides till the last is worn 50", x.lasts(7, 0), 9);
     }
 
     private static void wornMost() {

@@ -670,10 +670,10 @@ final class EdgeTextTest {
 
     private static void nothingStays() {
         Check.sentence("Of a wrong text nothing stays.");
-        GhostAssize x = Check.court("prop a jerk 1 at 0;accused nerve 5;calm 3;echo 3;day 3");
+        GhostAssize x = Check.court("prop a jerk 4 at 0;accused nerve 5;accused nerve 7 did a;calm 3;echo 1;day 3");
         Check.law(x, "fright 1;wear 2");
         x.calm(4);
-        String ahead = View.ofCourt(x);
+        String ahead = View.ofCourt(x) + View.ofAnswers(x) + View.ofRiddles(x);
         String[] wrong = {"prop b jerk 2 at 1;accused nerve 6 did a;calm 5;echo 5;day 5;bat", "calm 10", "echo 21", "day 1000",
             "prop b jerk 2 at 1 worn 100", "prop b jerk 2 at 10", "accused nerve 6 did aa", "accused nerve 6 knows 1",
             "prop b jerk 2 at 1;accused nerve 6 knows 2", "calm 5;calm", "echo 5;echo", "day 5;day"};
@@ -681,18 +681,29 @@ final class EdgeTextTest {
             Check.tape(x, text);
             Check.notThat("court «" + text + "»", () -> x.court());
         }
+        // The last of them told more than the court has: a prop, two accused, an echo.
+        Check.tape(x, "prop b jerk 2 at 1;accused nerve 6;accused nerve 1 did b;echo 20;bat");
+        Check.notThat("court", () -> x.court());
+        Check.noOne("no prop of it", () -> x.prop(1, 0));
+        Check.noOne("nobody of it", () -> x.accused(2, 0));
         for (String text : new String[] {"fright 2;ease 5;wear 7;bat", "fright 31", "wear 9 if", "wear 9 if (knows"}) {
             Check.tape(x, text);
             Check.notThat("law «" + text + "»", () -> x.law());
         }
-        Check.same("all is as it was", View.ofCourt(x), ahead);
+        Check.same("all is as it was", View.ofCourt(x) + View.ofAnswers(x) + View.ofRiddles(x), ahead);
         Check.same("the act is remembered", x.count(14), 1);
+        GhostAssize empty = new GhostAssize();
+        Check.tape(empty, "prop a jerk 9 at 0;accused nerve 5;accused nerve 5;echo 1;calm 1;day 1;bat");
+        Check.notThat("court", () -> empty.court());
+        GhostAssize other = new GhostAssize();
+        Check.same("a new one is as new", View.ofCourt(empty) + View.ofAnswers(empty) + View.ofRiddles(empty),
+                View.ofCourt(other) + View.ofAnswers(other) + View.ofRiddles(other));
         // Nor does a wrong text leave anything behind for the right one that follows.
         Check.more(x, "prop c jerk 7;accused nerve 8");
         Check.same("not nailed", x.prop(1, 3), NONE);
         Check.same("not worn", x.prop(1, 2), 0);
-        Check.same("knows nothing", x.accused(1, 2), 0);
-        Check.same("did nothing", x.accused(1, 0), 0);
+        Check.same("knows nothing", x.accused(2, 2), 0);
+        Check.same("did nothing", x.accused(2, 0), 0);
         Check.same("the slot is free", x.slot(1), NONE);
     }
 

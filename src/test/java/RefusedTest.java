@@ -210,9 +210,9 @@ final class RefusedTest {
 
     private static void leaves(String what, Class<? extends RuntimeException> due, boolean usesTape, Call call) {
         GhostAssize x = rich();
-        String ahead = View.ofAll(x);
+        String ahead = View.ofAll(x) + View.ofAnswers(x);
         Check.fails(what, due, () -> call.on(x));
-        Check.same(what + " leaves all", View.ofAll(x), ahead);
+        Check.same(what + " leaves all", View.ofAll(x) + View.ofAnswers(x), ahead);
         Check.tapeHas(what, x, usesTape ? 0 : 20);
         leavesPast(what, x);
         if (!usesTape) {
@@ -305,10 +305,10 @@ final class RefusedTest {
 
     private static void refusedText(String what, int fault, Call call) {
         GhostAssize x = rich();
-        String ahead = View.ofCourt(x) + x.count(14);
+        String ahead = View.ofCourt(x) + x.count(14) + View.ofAnswers(x);
         Check.fails(what, NOT_THAT, () -> call.on(x));
         Check.same(what + ": its first wrong byte", x.fault(), fault);
-        Check.same(what + " leaves all", View.ofCourt(x) + x.count(14), ahead);
+        Check.same(what + " leaves all", View.ofCourt(x) + x.count(14) + View.ofAnswers(x), ahead);
         Check.tapeHas(what, x, 0);
         leavesPast(what, x);
     }
@@ -332,17 +332,17 @@ final class RefusedTest {
 
     private static void refusedThirteenth() {
         Check.sentence("UnsupportedOperationException: there are 12.");
-        GhostAssize x = Check.court("prop a jerk 1 at 0;accused nerve 60");
+        GhostAssize x = Check.court("prop a jerk 1 at 0;accused nerve 60;accused nerve 2 did a");
         for (int i = 2; i <= 12; i++) {
             Check.more(x, "");
         }
         x.image();
         x.calm(7);
         x.send(0);
-        String ahead = View.ofAll(x);
-        Check.tape(x, "prop b jerk 1 at 1;accused nerve 1;calm 1;echo 1;day 1");
+        String ahead = View.ofAll(x) + View.ofAnswers(x);
+        Check.tape(x, "prop b jerk 1 at 1;accused nerve 1;accused nerve 2 did a;calm 1;echo 20;day 1");
         Check.fails("a 13th", TOO_MANY, () -> x.court());
-        Check.same("it leaves all", View.ofAll(x), ahead);
+        Check.same("it leaves all", View.ofAll(x) + View.ofAnswers(x), ahead);
         Check.tapeHas("it is used up", x, 0);
         Check.same("undo", x.undo() && x.undo(), true);
         Check.same("no more", x.undo(), false);

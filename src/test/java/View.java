@@ -40,6 +40,32 @@ final class View {
         return s.toString();
     }
 
+    /** What the questions answer that use no tape up; some 30 calls, and 7 more for each accused. */
+    static String ofAnswers(GhostAssize x) {
+        StringBuilder s = new StringBuilder("answers ").append(x.gap());
+        s.append(' ').append(x.errors(false)).append(' ').append(x.errors(true)).append(' ').append(x.swap());
+        s.append(' ').append(x.next()).append(' ').append(x.cover()).append(' ').append(x.leave());
+        s.append(' ').append(x.bravest()).append(' ').append(x.alike()).append(' ').append(x.all(false));
+        s.append(' ').append(x.all(true)).append(' ').append(x.loudest()).append(' ').append(x.trial(3));
+        s.append(' ').append(x.span(3, false)).append(' ').append(x.span(3, true));
+        int people = x.count(1);
+        for (int one = 0; one < people; one++) {
+            s.append(", of ").append(one).append(' ').append(x.straight(one)).append(' ').append(x.tense(one, 3));
+            s.append(' ').append(x.ways(one)).append(' ').append(x.odds(one)).append(' ').append(x.corners(one));
+            s.append(' ').append(x.usher(one)).append(' ').append(x.car(one, one == 0 ? people - 1 : 0));
+        }
+        for (int prop = 0; prop < x.count(0) && people > 0; prop++) {
+            s.append(", prop ").append(x.lasts(prop, 0)).append(' ').append(x.share(prop, 0));
+        }
+        return s.toString();
+    }
+
+    /** What the questions answer that use the tape up. */
+    static String ofRiddles(GhostAssize x) {
+        x.end(0);
+        return "riddles " + x.found(30, false) + " " + x.found(30, true) + " " + x.ask(30);
+    }
+
     /** All but the tape. */
     static String ofAll(GhostAssize x) {
         return ofCourt(x) + " acts " + x.count(14) + " fault " + x.fault();
