@@ -29,21 +29,27 @@ final class MemoryTest {
         }
     }
 
-    private static void promise46UndoEachAct() {
+    private static GhostAssize done(int acts) {
         GhostAssize x = Check.court(COURT);
-        String[] ahead = new String[9];
-        for (int i = 0; i < 9; i++) {
-            ahead[i] = View.ofCourt(x);
+        for (int i = 0; i < acts; i++) {
             act(x, i);
-            Check.same("the act changed something", ahead[i].equals(View.ofCourt(x)), false);
             Check.same("acts", x.count(14), i + 1);
         }
-        for (int i = 8; i >= 0; i--) {
-            Check.same("undo", x.undo(), true);
-            Check.same("all is as ahead of act " + i, ahead[i].equals(View.ofCourt(x)), true);
-            Check.same("acts", x.count(14), i);
+        return x;
+    }
+
+    private static void promise46UndoEachAct() {
+        for (int left = 8; left >= 0; left--) {
+            String ahead = View.ofCourt(done(left));
+            Check.same("act " + left + " changes something", ahead.equals(View.ofCourt(done(left + 1))), false);
+            GhostAssize x = done(9);
+            for (int i = 8; i >= left; i--) {
+                Check.same("undo", x.undo(), true);
+                Check.same("acts", x.count(14), i);
+            }
+            Check.same("all is as ahead of act " + left, View.ofCourt(x), ahead);
+            Check.same("none left", left == 0 && x.undo(), false);
         }
-        Check.same("none left", x.undo(), false);
     }
 
     private static void promise46UndoOfTwelve() {

@@ -1,4 +1,4 @@
-/** All that can be asked of an object without a change, as a text. A view takes some 100 calls of the 512. */
+/** All that can be asked of an object without a change, as a text. A view takes some 70 to 110 calls of the 512. */
 final class View {
     private View() {
     }
@@ -6,38 +6,34 @@ final class View {
     /** What an act undone, or going back, brings again: all but the tape, fault(), the image and the acts remembered. */
     static String ofCourt(GhostAssize x) {
         StringBuilder s = new StringBuilder("counts");
+        int[] counts = new int[14];
         for (int what = 0; what < 14; what++) {
-            s.append(' ').append(x.count(what));
+            counts[what] = x.count(what);
+            s.append(' ').append(counts[what]);
         }
         s.append(" props");
-        for (int i = 0; i < 4 * x.count(0); i++) {
+        for (int i = 0; i < 4 * counts[0]; i++) {
             s.append(' ').append(x.prop(i / 4, i % 4));
         }
         s.append(" accused");
-        for (int i = 0; i < 4 * x.count(1); i++) {
+        for (int i = 0; i < 4 * counts[1]; i++) {
             s.append(' ').append(x.accused(i / 4, i % 4));
         }
         s.append(" log");
-        for (int i = 0; i < 4 * Math.min(6, x.count(13)); i++) {
+        for (int i = 0; i < 4 * Math.min(6, counts[13]); i++) {
             s.append(' ').append(x.log(i / 4, i % 4));
         }
-        s.append(" slots");
+        s.append(" slots and frights");
         for (int slot = 0; slot < 10; slot++) {
-            s.append(' ').append(x.slot(slot));
-        }
-        int seed = x.seed(0);
-        x.seed(seed);
-        return s.append(" seed ").append(seed).append(frights(x)).toString();
-    }
-
-    private static String frights(GhostAssize x) {
-        StringBuilder s = new StringBuilder(" frights");
-        for (int slot = 0; slot < 10 && x.count(1) > 0; slot++) {
-            if (x.slot(slot) >= 0) {
+            int prop = x.slot(slot);
+            s.append(' ').append(prop);
+            if (prop >= 0 && counts[1] > 0) {
                 s.append(' ').append(x.fright(0, slot, 50, false)).append(' ').append(x.fright(0, slot, 50, true));
             }
         }
-        return s.toString();
+        int seed = x.seed(0);
+        x.seed(seed);
+        return s.append(" seed ").append(seed).toString();
     }
 
     /** What the questions answer that use no tape up; some 30 calls, and 7 more for each accused. */
@@ -54,7 +50,8 @@ final class View {
             s.append(' ').append(x.ways(one)).append(' ').append(x.odds(one)).append(' ').append(x.corners(one));
             s.append(' ').append(x.usher(one)).append(' ').append(x.car(one, one == 0 ? people - 1 : 0));
         }
-        for (int prop = 0; prop < x.count(0) && people > 0; prop++) {
+        int props = people > 0 ? x.count(0) : 0;
+        for (int prop = 0; prop < props; prop++) {
             s.append(", prop ").append(x.lasts(prop, 0)).append(' ').append(x.share(prop, 0));
         }
         return s.toString();
