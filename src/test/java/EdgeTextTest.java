@@ -705,6 +705,10 @@ final class EdgeTextTest {
         Check.same("knows nothing", x.accused(2, 2), 0);
         Check.same("did nothing", x.accused(2, 0), 0);
         Check.same("the slot is free", x.slot(1), NONE);
+        GhostAssize shown = Check.court("prop b jerk 1;accused nerve 5 did ab");
+        Check.tape(shown, "prop a jerk 1;prop a jerk 1;bat");
+        Check.notThat("court", () -> shown.court());
+        Check.same("no prop of it covers a deed", shown.cover(), 1);
     }
 
     private static void faults() {

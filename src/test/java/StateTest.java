@@ -11,6 +11,7 @@ final class StateTest {
         promise10FrightWithoutLaw();
         promise10Facts();
         promise10Conditions();
+        promise10EachPart();
         promise10LawAnew();
         promise10Wears();
         promise10Wrong();
@@ -122,6 +123,38 @@ final class StateTest {
         due("fright 10 if ((not (guilty or (tense > 3 and not knows))))", 0, 2, 9, 11);
         due("fright 10 if ((not (guilty or (tense > 3 and not knows))))", 1, 2, 9, 1);
         due("fright 1 if knows;fright 2;fright 4 if guilty;fright 8 if slot > 1", 0, 2, 0, 12);
+    }
+
+    /** Each PART stands on either side of both signs, alone and in a SUM, and tells just its number there. */
+    private static void promise10EachPart() {
+        String[] parts = {"prop", "slot", "jerk", "worn", "tense", "nerve"};
+        int[] told = {1, 5, 7, 40, 33, 21};
+        GhostAssize[] made = new GhostAssize[parts.length];
+        for (int i = 0; i < parts.length; i++) {
+            GhostAssize x = Check.court("prop c jerk 1;prop a jerk 7 at 5 worn 40;accused nerve 21");
+            made[i] = x;
+            for (int beside = -1; beside <= 1; beside++) {
+                int n = told[i] + beside;
+                holds(x, parts[i] + " < " + n, told[i] < n);
+                holds(x, parts[i] + " > " + n, told[i] > n);
+                holds(x, n + " < " + parts[i], n < told[i]);
+                holds(x, n + " > " + parts[i], n > told[i]);
+                holds(x, "2 + " + parts[i] + " < " + n + " + 2", told[i] < n);
+                holds(x, n + " + 2 < 2 + " + parts[i], n < told[i]);
+            }
+        }
+        for (int i = 0; i < parts.length; i++) {
+            for (int j = 0; j < parts.length; j++) {
+                holds(made[i], parts[i] + " < " + parts[j], told[i] < told[j]);
+                holds(made[i], parts[j] + " > " + parts[i] + " + 1", told[j] > told[i] + 1);
+            }
+        }
+    }
+
+    /** Prop 1 in slot 5, jerk 7 less 4, comes to one so tense 33. */
+    private static void holds(GhostAssize x, String condition, boolean want) {
+        Check.law(x, "fright 9 if " + condition);
+        Check.same("«" + condition + "»", x.fright(0, 5, 33, false), want ? 12 : 3);
     }
 
     private static void promise10LawAnew() {

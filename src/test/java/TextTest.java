@@ -206,7 +206,8 @@ final class TextTest {
         GhostAssize x = new GhostAssize();
         Check.law(x, "fright 7;ease 1");
         Object[][] rows = {{";", 0}, {"fright", 6}, {"fright 31", 7}, {"fright 0030", 7}, {"fright 1;", 9},
-            {"fright 1;  ", 11}, {"fright 1 knows", 9}, {"fright if knows", 7}, {"frights 1", 0}, {"prop a jerk 1", 0},
+            {"fright 1;  ", 11}, {"fright 1 ease 2", 9}, {"fright 1 if knows ease 2", 18},
+            {"fright 1,ease 2", 8}, {"fright 1 knows", 9}, {"fright if knows", 7}, {"frights 1", 0}, {"prop a jerk 1", 0},
             {"wear 5 if", 9}, {"fright 1 if knows knows", 18}, {"fright 1 if knows and", 21},
             {"fright 1 if knows or or", 21}, {"fright 1 if (knows", 18}, {"fright 1 if (knows))", 19},
             {"fright 1 if ()", 13}, {"fright 1 if prop", 16}, {"fright 1 if prop <", 18}, {"fright 1 if prop < +", 19},
