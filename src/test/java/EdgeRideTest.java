@@ -98,6 +98,11 @@ final class EdgeRideTest {
         Check.law(y, "wear 2 if tense<1;wear 4 if tense>10;wear 8 if tense>21");
         Check.same("17 rides of 3", y.lasts(0, 0), 17);
         Check.same("10 rides of 5", y.lasts(1, 0), 10);
+        // At slot 0 it is just 0: neither below nor above.
+        GhostAssize first = Check.court("prop a jerk 20 at 0;accused nerve 60");
+        Check.law(first, "wear 2 if tense<0;wear 4 if 0<tense+1;wear 8 if tense>0");
+        first.send(0);
+        Check.same("tense 0 at slot 0", first.prop(0, 2), 5);
     }
 
     private static void frightSoTense() {
